@@ -789,6 +789,9 @@ public final class PromisesTest {
         due("forget()", x.forget(), 0);
         x.tale(0, 1, false);
         x.tale(0, 1, true);
+        due("ones()", x.ones(), 2);
+        due("broken(0)", x.broken(0), 1);
+        due("broken(1)", x.broken(1), 1);
         due("forget()", x.forget(), 2);
         due("forget()", x.forget(), 0);
         due("ones()", x.ones(), 1);
@@ -914,6 +917,7 @@ public final class PromisesTest {
         part(27);
         BelowWorth x = new BelowWorth();
         yearIs(x, 0, 99, 100000, 0, 0);
+        yearIs(x, 9999, 1, 100000, 0, 0);
         int[][] wrong = {{-1, 1, 0}, {10000, 1, 0}, {0, 0, 0}, {0, 100, 0}, {0, 1, -1}, {0, 1, 3}, {LOWEST, 1, 0},
             {HIGHEST, 1, 0}, {0, LOWEST, 0}, {0, HIGHEST, 0}, {0, 1, LOWEST}, {0, 1, HIGHEST}};
         for (int[] w : wrong) {
@@ -990,6 +994,39 @@ public final class PromisesTest {
         yearIs(x, seedOf(5, 0, 24), 1, 100050, 5, 5);
         noYearFor();
         yearBehind();
+        yearOfLastSeason();
+    }
+
+    /** In the year the SEASON turns, then a SHIP sails that sinks in winter only; at season 99 it does not turn. */
+    private static void yearOfLastSeason() {
+        int seed = 0;
+        while (seed <= 9999 && !turnsThenSinksInWinter(firstDrawn(seed))) {
+            seed++;
+        }
+        BelowWorth x = withFleet();
+        yearIs(x, seed, 2, 100050, 5, 5);
+        seasons(x, 49);
+        x.set(2, 0);
+        yearIs(x, seed, 2, 100050, 5, 5);
+        seasons(x, 49);
+        x.set(2, 0);
+        yearIs(x, seed, 2, 100050, 5, 5);
+        seasons(x, 1);
+        due("seasons", x.told(5), 99);
+        x.set(2, 0);
+        yearIs(x, seed, 2, 100025, 0, 6);
+        x.set(2, 1);
+        yearIs(x, seed, 2, 100050, 5, 5);
+    }
+
+    private static boolean turnsThenSinksInWinter(int x) {
+        int y = (75 * x + 74) % 65537, later = y / 48 % 100;
+        return x / 6 % 8 == 4 && y / 6 % 8 >= 5 && later >= 25 && later < 40;
+    }
+
+    private static void seasons(BelowWorth x, int many) {
+        say(x, ".".repeat(many));
+        due("done()", x.done(), many);
     }
 
     /** A SHIP sails in that year: it sinks if what is drawn is just below its RISK, it comes home if it is the RISK. */
@@ -1105,7 +1142,6 @@ public final class PromisesTest {
         x.sell(3);
         due("restore(1) of the later image", x.restore(1), 1);
         due("told(1)", x.told(1), 9);
-        part(30);
     }
 
     private static void changeAll(BelowWorth x) {
