@@ -139,28 +139,30 @@ public final class ModelTest {
         }
     }
 
+    /** An object answers a row of a table at most: it is for 512 calls. */
     private static void tables() {
-        BelowWorth real = new BelowWorth();
         Model model = new Model();
         for (int what = 0; what < 2; what++) {
             for (int v = 1; v <= 99; v++) {
+                BelowWorth real = new BelowWorth();
                 for (int k = 1; k <= 9; k++) {
                     due("berth " + v + " " + k, real.berth(v, k, what), model.berth(v, k, what));
                 }
             }
             for (int weights = 0; weights <= 999999; weights += weights < 1000 ? 1 : 137) {
-                due("holds " + weights, real.holds(weights, what), model.holds(weights, what));
+                due("holds " + weights, new BelowWorth().holds(weights, what), model.holds(weights, what));
             }
             for (int p = 0; p <= 100; p += p == 3 ? 7 : p == 90 ? 8 : p > 3 && p < 90 ? 10 : 1) {
                 for (int q = 0; q <= 100; q++) {
-                    meantTable(real, model, p, q, what);
+                    meantTable(model, p, q, what);
                 }
             }
         }
         shares();
     }
 
-    private static void meantTable(BelowWorth real, Model model, int p, int q, int part) {
+    private static void meantTable(Model model, int p, int q, int part) {
+        BelowWorth real = new BelowWorth();
         for (int n = 0; n <= 6; n++) {
             for (int s = 0; s <= n; s++) {
                 due("meant " + p + " " + q + " " + n + " " + s, real.meant(p, q, n, s, part), model.meant(p, q, n, s, part));

@@ -873,6 +873,7 @@ public final class PromisesTest {
         part(26);
         BelowWorth x = new BelowWorth();
         for (int v = 1; v <= 99; v++) {
+            x = new BelowWorth();
             for (int k = 1; k <= 9; k++) {
                 int bid = firstBid(v, k);
                 due("berth(" + v + ", " + k + ", 0)", x.berth(v, k, 0), bid > 0 ? 1 : 0);

@@ -1,6 +1,8 @@
 import java.lang.reflect.InvocationTargetException;
 import java.lang.reflect.Method;
 import java.lang.reflect.Modifier;
+import java.util.Arrays;
+import java.util.Comparator;
 
 /** No call makes an object, and no call throws, whatever its arguments are. */
 public final class RoomTest {
@@ -19,6 +21,8 @@ public final class RoomTest {
         CHECK.part("wild calls");
         Draws draws = new Draws(3);
         Method[] methods = BelowWorth.class.getDeclaredMethods();
+        // The machine may tell them in any order; the draws are to be the same in each run.
+        Arrays.sort(methods, Comparator.comparing(Method::toString));
         for (int time = 0; time < 400; time++) {
             BelowWorth x = new BelowWorth();
             for (int call = 0; call < 512; call++) {
@@ -50,15 +54,18 @@ public final class RoomTest {
         com.sun.management.ThreadMXBean beans =
                 (com.sun.management.ThreadMXBean) java.lang.management.ManagementFactory.getThreadMXBean();
         long self = Thread.currentThread().getId();
-        BelowWorth x = new BelowWorth();
-        allCalls(x);
+        BelowWorth[] made = new BelowWorth[200];
+        for (int time = 0; time < made.length; time++) {
+            made[time] = new BelowWorth();
+            allCalls(made[time]);
+        }
         long before = beans.getThreadAllocatedBytes(self);
-        for (int time = 0; time < 200; time++) {
-            allCalls(x);
+        for (int time = 0; time < made.length; time++) {
+            allCalls(made[time]);
         }
         long given = beans.getThreadAllocatedBytes(self) - before;
         // Asking for the number takes some room itself.
-        CHECK.holds("no object is made by 200 times all calls: " + given + " bytes", given < 2000);
+        CHECK.holds("no object is made by all calls to 200 objects: " + given + " bytes", given < 2000);
     }
 
     private static void allCalls(BelowWorth x) {
