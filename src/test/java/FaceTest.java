@@ -93,9 +93,22 @@ public final class FaceTest {
                     !Modifier.isPublic(modifiers) && !Modifier.isProtected(modifiers));
             checkFields(one);
             checkMethods(one);
+            checkHiddenNames(one);
         }
         checkFields(BelowWorth.class);
         checkMethods(BelowWorth.class);
+    }
+
+    /** No private method bears the name of a public one, in the classes inside neither. */
+    private static void checkHiddenNames(Class<?> one) {
+        Set<String> open = new HashSet<>();
+        for (String method : FACE) {
+            open.add(method.substring(method.indexOf(' ') + 1, method.indexOf('(')));
+        }
+        for (Method method : one.getDeclaredMethods()) {
+            boolean hidden = Modifier.isPrivate(method.getModifiers());
+            CHECK.holds(method + " has a name of its own", !hidden || !open.contains(method.getName()));
+        }
     }
 
     private static void checkFields(Class<?> one) {

@@ -285,6 +285,11 @@ public final class NamesBoundsTest {
         ones("12! 34! 50! 01= 23= 45= 14=", 3);
         ones("12! 34! 01= 23= 45= 14=", 2);
         ones("67! 57! 56! 47! 46! 45! 07= 17=", 4);
+        // 3 is told of as another than 2 before 2 is one with 1: it may be the ship of 0 all the same.
+        ones("01! 23! 12=", 2);
+        ones("23! 01! 21=", 2);
+        ones("01! 12= 23!", 2);
+        ones("01! 23! 12= 03!", 3);
     }
 
     // ---- promise 26
